@@ -520,7 +520,7 @@ public final class HourRingers {
 
     /** THE TEXT, and its reading into a parish; the first fault ends the reading. */
     private static final class Script {
-        private static final int HOUR = 0, RINGER = 1, TOWER = 2, TIMES = 3, REST = 4, KINDS = 5;
+        private static final int HOUR = 0, RINGER = 1, TOWER = 2, TIMES = 3, REST = 4, KINDS = REST + 1;
         private static final int MOST_NUMBERS = 4;
         private static final int NO_FAULT = -1;
 
@@ -898,7 +898,7 @@ public final class HourRingers {
     private static final class Nights {
         private static final int SHORT_AT = 59, WALK_AT = 48, TOP_TURN = 46;
         private static final long WHOLE = -1L, SHORT_ALONE = 15L << SHORT_AT;
-        private static final long FAR = Long.MAX_VALUE;
+        private static final long FAR = ~(1L << 63);
         private static final int LAST_HOUR = MOST_HOURS - 1;
         private static final int UNKNOWN = -1;
 

@@ -12,8 +12,10 @@ public final class ParishTest {
         faultsOfNumbers();
         faultsOfPlaces();
         tooEarly();
+        olderBytes();
         faultChangesNothing();
         readAnew();
+        readThrice();
         ringers();
         hours();
         counts();
@@ -137,6 +139,11 @@ public final class ParishTest {
         Check.due("4: hou", Check.read("hou 1;"), -10);
         Check.due("4: hou and no more", Check.read("hou"), -10);
         Check.due("4: hourhour", Check.read("hourhour 1;"), -10);
+        Check.due("4: hourz", Check.read("hourz 1;"), -10);
+        Check.due("4: houra", Check.read("houra 1;"), -10);
+        Check.due("4: xour", Check.read("xour 1;"), -10);
+        Check.due("4: sour", Check.read("tower 1; sour 1;"), -19);
+        Check.due("4: towed", Check.read("towed 1;"), -10);
         Check.due("4: Hour", Check.read("Hour 1;"), -10);
         Check.due("4: hoUr", Check.read("hoUr 1;"), -10);
         Check.due("4: bell", Check.read("hour 1; bell 2;"), -18);
@@ -203,6 +210,29 @@ public final class ParishTest {
         Check.due("4: rest 3", Check.read("hour 1;rest 3"), -23);
     }
 
+    /** What was typed and cleared is not of the text, wherever the text ends. */
+    private static void olderBytes() {
+        String older = "ringer 11 7 10 1;hour 2;";
+        String text = "ringer 1 7 1 1";
+        for (int n = 1; n <= text.length(); n++) {
+            HourRingers x = new HourRingers();
+            Check.type(x, older);
+            x.clear();
+            Check.type(x, text.substring(0, n));
+            Check.due("4: " + text.substring(0, n) + " after a longer text", x.parish(), n < 6 ? -10 : -10 - n);
+        }
+        HourRingers y = new HourRingers();
+        Check.type(y, older);
+        y.clear();
+        Check.due("4: an empty text after a longer one", y.parish(), 0);
+        Check.due("4: no hours", y.count(0), 0);
+        for (String end : new String[] {"hour", "hour ", "hour 1", "hour 1 ", "ringer 1 1 1 1"}) {
+            Check.due("4: 200 bytes that end with " + end, Check.read(" ".repeat(200 - end.length()) + end), -10 - 200);
+        }
+        Check.due("4: 200 bytes that end with hour1;", Check.read(" ".repeat(194) + "hour1;"), 1);
+        Check.due("4: 200 bytes that end with hou", Check.read(" ".repeat(197) + "hou"), -10 - 197);
+    }
+
     private static void faultChangesNothing() {
         HourRingers x = Check.told("hour 2;hour 1;ringer 5 7 0 3;tower 8;times 2;rest 0;");
         x.put(0, 0, 1);
@@ -249,6 +279,34 @@ public final class ParishTest {
         Check.due("4: rest as at first", x.count(3), 0);
         Check.due("4: the trace stays", x.trace(), 1);
         Check.due("4: night of the second", x.night(1), 18);
+    }
+
+    /** Nothing of an earlier text, told or faulty, is left in a later one. */
+    private static void readThrice() {
+        HourRingers x = Check.told("hour 3;hour 1;ringer 5 7 0 3;ringer 6 7 0 3;tower 8;times 2;rest 1;");
+        Check.due("15: fewest of the first", x.night(2), 2);
+        Check.due("15: even of the first", x.night(3), 1);
+        Check.due("17: needed of the first", x.needed(), 3);
+        Check.type(x, "hour 2;tower 9;times 3;rest 2;ringer 1 1 1 1;hours");
+        Check.due("4: a fault", x.parish(), -10 - 45);
+        x.clear();
+        Check.type(x, "hour 1;hour 1;hour 1;hour 1;ringer 1 7 0 0;ringer 1 7 0 0;times 4;");
+        Check.due("4: the second", x.parish(), 7);
+        Check.due("15: fewest of the second", x.night(2), 1);
+        Check.due("15: even of the second", x.night(3), 2);
+        Check.due("17: needed of the second", x.needed(), 0);
+        Check.due("4: rest of the second", x.count(3), 0);
+        Check.type(x, "hour 2;ringer 7 2 0 0;");
+        Check.due("4: the third", x.parish(), 2);
+        int[] counts = {1, 1, 1, 0, 0};
+        for (int what = 0; what < 5; what++) {
+            Check.due("4: count(" + what + ") of the third", x.count(what), counts[what]);
+        }
+        Check.due("4: tower of the third", x.now(3), 0);
+        Check.due("15: short of the third", x.night(0), 1);
+        Check.due("15: fewest of the third", x.night(2), 1);
+        Check.due("15: even of the third", x.night(3), 1);
+        Check.due("17: needed of the third", x.needed(), 1);
     }
 
     private static void ringers() {

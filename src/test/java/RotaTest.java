@@ -195,6 +195,12 @@ public final class RotaTest {
         x.put(2, 0, 2);
         Check.due("19: of several the least", x.stands(0), 50);
         Check.due("19: walk then", x.stands(1), 60);
+        for (int home : new int[] {0, 1, 2, 59, 60}) {
+            HourRingers y = Check.told("hour 1;ringer " + home + " 1 0 0;tower 30;");
+            y.put(0, 0, 0);
+            Check.due("19: home " + home, y.stands(0), home);
+            Check.due("19: home " + home, y.stands(1), 0);
+        }
         Check.due("19: nothing is changed", x.now(3), 5);
         for (int what : new int[] {-1, 2, Integer.MIN_VALUE, Integer.MAX_VALUE}) {
             Check.due("19: what " + what, x.stands(what), BAD);

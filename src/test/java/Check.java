@@ -17,6 +17,24 @@ final class Check {
         }
     }
 
+    /** Two rows of answers, a line each; the first that differs is told. */
+    static void same(String why, String got, String want) {
+        if (got.equals(want)) {
+            passed++;
+            return;
+        }
+        failed++;
+        String[] gotLines = got.split("\n");
+        String[] wantLines = want.split("\n");
+        for (int i = 0; i < gotLines.length && i < wantLines.length; i++) {
+            if (!gotLines[i].equals(wantLines[i])) {
+                System.out.println(why + ": " + gotLines[i] + ", due is " + wantLines[i]);
+                return;
+            }
+        }
+        System.out.println(why + ": " + gotLines.length + " answers, due are " + wantLines.length);
+    }
+
     static void isTrue(String what, boolean holds) {
         due(what, holds ? 1 : 0, 1);
     }

@@ -3,13 +3,18 @@ import java.util.List;
 
 /** Long runs of calls, right and wrong ones, whose answers must be those of the model; the same runs each time. */
 public final class ModelTest {
-    private static final int RUNS = 600;
-    private static final int CALLS = 400;
+    private static final int RUNS = 2000;
+    /** An object is used for so many calls; most steps take three at most, one that reads another text these. */
+    private static final int CALLS = 512;
+    private static final int STEP = 3;
+    private static final int LONGEST_STEP = 160;
     private static final int NIGHTS = 400;
     private static final int SMALL_NIGHTS = 400;
     private static final int TEXTS = 20000;
 
     private static long seed = 20261119;
+    /** So many calls at most have been made on the object of a run. */
+    private static int calls = 0;
 
     public static void main(String[] args) {
         texts();
@@ -91,10 +96,11 @@ public final class ModelTest {
     }
 
     private static void type(HourRingers x, Model m, String text) {
+        Check.type(x, text);
         for (int i = 0; i < text.length(); i++) {
-            x.type(text.charAt(i), 1);
             m.type(text.charAt(i), 1);
         }
+        calls += (text.length() + 7) / 8;
     }
 
     private static void told(String why, HourRingers x, Model m) {
@@ -106,17 +112,21 @@ public final class ModelTest {
                 Check.due(why + ": hour(" + i + ", " + what + ")", x.hour(i, what), m.hour(i, what));
             }
         }
+        calls += 8 * (2 + 7 * 2);
     }
 
     private static void runs() {
         for (int run = 0; run < RUNS; run++) {
             HourRingers x = new HourRingers();
             Model m = new Model();
+            calls = 0;
             String text = parish(1 + any(4), 2 + any(5));
             type(x, m, text);
             Check.due("run " + run + ": parish()", x.parish(), m.parish());
-            for (int call = 0; call < CALLS; call++) {
-                step("run " + run + ", call " + call + " after " + text, x, m);
+            calls++;
+            while (calls + STEP <= CALLS) {
+                step("run " + run + ", call " + calls + " after " + text, x, m);
+                calls += STEP;
             }
         }
     }
@@ -188,7 +198,7 @@ public final class ModelTest {
         } else if (one(10)) {
             Check.due(why + ": night(" + w + ")", x.night(w), m.night(w));
             Check.due(why + ": best(" + a + ", " + h + ")", x.best(a, h), m.best(a, h));
-        } else if (one(20)) {
+        } else if (one(20) && calls + LONGEST_STEP <= CALLS) {
             Check.due(why + ": clear()", x.clear(), m.clear());
             type(x, m, parish(any(5), any(7)));
             Check.due(why + ": parish()", x.parish(), m.parish());

@@ -9,7 +9,11 @@ import java.nio.file.Path;
 import java.util.ArrayList;
 import java.util.Arrays;
 import java.util.List;
+import java.util.Map;
+import java.util.TreeMap;
 import java.util.TreeSet;
+import java.util.regex.Matcher;
+import java.util.regex.Pattern;
 
 /** The face that the document tells, and those rules of LANGUAGE.md that a glance at the source can tell broken. */
 public final class LanguageTest {
@@ -23,12 +27,16 @@ public final class LanguageTest {
         "import", "package", "throw", "throws", "try", "catch", "finally", "synchronized", "assert", "var", "yield",
         "equals", "hashCode", "toString", "Object", "Exception", "Thread", "System.out", "System.err", "Random",
         "Exact", "volatile", "transient", "native", "strictfp", "protected"};
+    private static final List<String> LIBRARY = List.of(
+        "Integer.bitCount", "Math.abs", "Math.min", "Math.max", "System.arraycopy");
 
     public static void main(String[] args) throws IOException {
         members();
         constants();
         insideClasses();
-        source();
+        String code = source();
+        library(code);
+        methods(code);
         Check.end();
     }
 
@@ -96,7 +104,7 @@ public final class LanguageTest {
         }
     }
 
-    private static void source() throws IOException {
+    private static String source() throws IOException {
         String text = Files.readString(Path.of("src/main/java/HourRingers.java"), StandardCharsets.UTF_8);
         Check.isTrue("the signs are 1 to 127", text.chars().allMatch(c -> c >= 1 && c <= 127));
         String code = text.replaceAll("(?s)/\\*.*?\\*/", " ").replaceAll("//[^\n]*", " ").replaceAll("\"[^\"\n]*\"", "\"\"");
@@ -114,5 +122,55 @@ public final class LanguageTest {
                 Check.isTrue("made in a constructor: " + line.trim(), isField || line.trim().equals("images[i] = new Rota();"));
             }
         }
+        return code;
+    }
+
+    private static void library(String code) {
+        Matcher use = Pattern.compile("\\b([A-Z]\\w*[a-z]\\w*)\\.(\\w+)").matcher(code);
+        TreeSet<String> own = new TreeSet<>();
+        for (Class<?> one : HourRingers.class.getDeclaredClasses()) {
+            own.add(one.getSimpleName());
+        }
+        while (use.find()) {
+            Check.isTrue(use.group() + " is told by rule 4", own.contains(use.group(1)) || LIBRARY.contains(use.group()));
+        }
+    }
+
+    /** Rules 8 and 11: how long methods are, what they take, how deep they call one another, which call themselves. */
+    private static void methods(String code) {
+        Map<String, String> bodies = new TreeMap<>();
+        Matcher method = Pattern.compile("(?m)^( {4}| {8})(?:(?:public|private|static|final) )*\\w+(?:\\[\\])? (\\w+)\\(([^)]*)\\) \\{$").matcher(code);
+        while (method.find()) {
+            int end = code.indexOf("\n" + method.group(1) + "}\n", method.end());
+            String body = code.substring(method.end(), end + 1);
+            String name = method.group(2);
+            Check.isTrue(name + " is short", body.chars().filter(c -> c == '\n').count() <= 60);
+            Check.isTrue(name + " takes seven at most", method.group(3).split(",").length <= 7);
+            if (body.matches("(?s).*\\b" + name + "\\(.*")) {
+                Check.isTrue(name + " calls itself: private static", method.group().trim().startsWith("private static "));
+            }
+            // Methods of one name in several classes are taken for one that calls what each calls.
+            bodies.merge(name, body, String::concat);
+        }
+        Check.isTrue("many methods were found", bodies.size() > 80);
+        for (String name : bodies.keySet()) {
+            Check.isTrue(name + " calls eight deep at most", depth(name, bodies, 0) <= 8);
+        }
+    }
+
+    private static int depth(String name, Map<String, String> bodies, int ahead) {
+        Check.isTrue(name + " is in no round of calls", ahead < 40);
+        if (ahead >= 40) {
+            return ahead;
+        }
+        int deepest = 0;
+        Matcher call = Pattern.compile("\\b(\\w+)\\(").matcher(bodies.get(name));
+        while (call.find()) {
+            String called = call.group(1);
+            if (bodies.containsKey(called) && !called.equals(name)) {
+                deepest = Math.max(deepest, depth(called, bodies, ahead + 1));
+            }
+        }
+        return 1 + deepest;
     }
 }
